@@ -18,6 +18,8 @@ public final class GlazierBench {
     private static final int MOST_LINES = SIDES + MOST_LEADS;
     /** 4 corners, 28 ends and 91 crossings are 123; two words of bits hold up to 128. */
     private static final int MOST_JOINTS = 128;
+    /** The slot behind the joints holds a point that is asked about and need not be a joint. */
+    private static final int ASKED = MOST_JOINTS;
     /** A flat graph of n joints has at most 3 n - 6 pieces; each is two steps. */
     private static final int MOST_STEPS = 6 * MOST_JOINTS;
     /** 14 lines part a window into at most 106; two words of bits hold up to 128. */
@@ -513,9 +515,9 @@ public final class GlazierBench {
         final int[] under;
 
         Joints() {
-            x = new int[MOST_JOINTS];
-            y = new int[MOST_JOINTS];
-            under = new int[MOST_JOINTS];
+            x = new int[MOST_JOINTS + 1];
+            y = new int[MOST_JOINTS + 1];
+            under = new int[MOST_JOINTS + 1];
         }
 
         void gather(Drawing drawing) {
@@ -557,32 +559,44 @@ public final class GlazierBench {
             if (common < 1) {
                 return;
             }
-            int nx = px / common;
-            int ny = py / common;
-            int nUnder = pUnder / common;
+            ask(px / common, py / common, pUnder / common);
             int place = 0;
-            while (place < total && order(place, nx, ny, nUnder) < 0) {
+            while (place < total && order(place, ASKED) < 0) {
                 place++;
             }
-            boolean known = place < total && order(place, nx, ny, nUnder) == 0;
+            boolean known = place < total && order(place, ASKED) == 0;
             if (known || total >= MOST_JOINTS) {
                 return;
             }
             for (int i = total; i > place; i--) {
-                x[i] = x[i - 1];
-                y[i] = y[i - 1];
-                under[i] = under[i - 1];
+                take(i, i - 1);
             }
-            x[place] = nx;
-            y[place] = ny;
-            under[place] = nUnder;
+            take(place, ASKED);
             total++;
         }
 
-        /** Below 0 if joint i comes before the point (by y, then by x), 0 if it is the point. */
-        int order(int i, int px, int py, int pUnder) {
-            int byY = Integer.compare(y[i] * pUnder, py * under[i]);
-            return byY != 0 ? byY : Integer.compare(x[i] * pUnder, px * under[i]);
+        void ask(int px, int py, int pUnder) {
+            x[ASKED] = px;
+            y[ASKED] = py;
+            under[ASKED] = pUnder;
+        }
+
+        private void take(int i, int j) {
+            x[i] = x[j];
+            y[i] = y[j];
+            under[i] = under[j];
+        }
+
+        /** Below 0 if point i comes before point j (by y, then by x), 0 if they are the same. */
+        int order(int i, int j) {
+            int byY = y[i] * under[j] - y[j] * under[i];
+            int byX = x[i] * under[j] - x[j] * under[i];
+            return byY != 0 ? byY : byX;
+        }
+
+        /** Below 0 if point i lies lower than point j. */
+        int heightOrder(int i, int j) {
+            return y[i] * under[j] - y[j] * under[i];
         }
 
         int indexOf(int px, int py, int pUnder) {
@@ -609,19 +623,11 @@ public final class GlazierBench {
             return value >= Math.min(end, otherEnd) && value <= Math.max(end, otherEnd);
         }
 
-        /** Above 0 if the point is on the left as one goes from joint a to joint b, 0 if ahead or behind. */
-        long side(int a, int b, int px, int py, int pUnder) {
-            long ax = x[a];
-            long ay = y[a];
-            long bx = x[b];
-            long by = y[b];
-            return ax * (by * pUnder - (long) py * under[b])
-                - ay * (bx * pUnder - (long) px * under[b])
-                + under[a] * (bx * py - by * px);
-        }
-
-        long sideOfJoint(int a, int b, int c) {
-            return side(a, b, x[c], y[c], under[c]);
+        /** Above 0 if point c is on the left as one goes from a to b, below 0 if on the right. */
+        long side(int a, int b, int c) {
+            return (long) x[a] * (y[b] * under[c] - y[c] * under[b])
+                - (long) y[a] * (x[b] * under[c] - x[c] * under[b])
+                + (long) under[a] * (x[b] * y[c] - x[c] * y[b]);
         }
 
         int above(int top, int bottom) {
@@ -814,19 +820,17 @@ public final class GlazierBench {
             return best;
         }
 
-        /** Whether, turned clockwise from the step back round their common start, s comes before t. */
+        /**
+         * Whether, turned clockwise from the step back round their common start, s comes before t.
+         * What is on the right of back is less than half a turn away, what is on its left more.
+         */
         private boolean comesSooner(int back, int s, int t) {
-            int rankOfS = halfTurns(back, s);
-            int rankOfT = halfTurns(back, t);
-            if (rankOfS != rankOfT) {
-                return rankOfS < rankOfT;
+            int sideOfS = Long.signum(joints.side(from[back], to[back], to[s]));
+            int sideOfT = Long.signum(joints.side(from[back], to[back], to[t]));
+            if (sideOfS != sideOfT) {
+                return sideOfS < sideOfT;
             }
-            return joints.sideOfJoint(from[s], to[s], to[t]) < 0;
-        }
-
-        /** 0 if step s is less than half a turn clockwise from the step back, 1 just half, 2 more. */
-        private int halfTurns(int back, int s) {
-            return 1 + Long.signum(joints.sideOfJoint(from[back], to[back], to[s]));
+            return joints.side(from[s], to[s], to[t]) < 0;
         }
     }
 
@@ -874,7 +878,7 @@ public final class GlazierBench {
             for (int s = 0; s < pieces.steps; s++) {
                 paneOf[s] = pieces.firm[s] ? NOT_WALKED : OUTSIDE;
             }
-            markOutside();
+            follow(stepWithOutside(), OUTSIDE, 0);
             total = 0;
             start[0] = 0;
             // The steps are sorted, so each walk is met at its least step, and the walks by these.
@@ -887,12 +891,14 @@ public final class GlazierBench {
         }
 
         /** Up along the left side from joint 0, the lower left corner, the outside is on the left. */
-        private void markOutside() {
+        private int stepWithOutside() {
+            int step = 0;
             for (int s = pieces.first[0]; s < pieces.first[1]; s++) {
                 if (joints.x[pieces.to[s]] == 0) {
-                    follow(s, OUTSIDE, 0);
+                    step = s;
                 }
             }
+            return step;
         }
 
         private int follow(int firstStep, int number, int filledBefore) {
@@ -1003,45 +1009,46 @@ public final class GlazierBench {
 
         /** The pane in which the point lies, -1 if it is on a firm piece. */
         int around(int px, int py, int pUnder) {
+            joints.ask(px, py, pUnder);
             for (int s = 0; s < pieces.steps; s++) {
-                if (pieces.firm[s] && isOn(s, px, py, pUnder)) {
+                if (pieces.firm[s] && isOn(s)) {
                     return -1;
                 }
             }
             for (int p = 0; p < total; p++) {
-                if (isInside(p, px, py, pUnder)) {
+                if (isInside(p)) {
                     return p;
                 }
             }
             return -1;
         }
 
-        private boolean isOn(int step, int px, int py, int pUnder) {
+        private boolean isOn(int step) {
             int low = Math.min(pieces.from[step], pieces.to[step]);
             int high = Math.max(pieces.from[step], pieces.to[step]);
-            return joints.side(low, high, px, py, pUnder) == 0
-                && joints.order(low, px, py, pUnder) <= 0
-                && joints.order(high, px, py, pUnder) >= 0;
+            return joints.side(low, high, ASKED) == 0
+                && joints.order(low, ASKED) <= 0
+                && joints.order(ASKED, high) <= 0;
         }
 
         /** A ray to the right leaves a pane once more than it enters it; a piece walked both ways counts twice. */
-        private boolean isInside(int p, int px, int py, int pUnder) {
+        private boolean isInside(int p) {
             boolean inside = false;
             for (int k = start[p]; k < start[p + 1]; k++) {
-                if (isCrossed(walk[k], px, py, pUnder)) {
+                if (isCrossed(walk[k])) {
                     inside = !inside;
                 }
             }
             return inside;
         }
 
-        /** Whether the ray crosses the step; of its two ends the lower one belongs to it, the upper one doesn't. */
-        private boolean isCrossed(int step, int px, int py, int pUnder) {
+        /** Whether the ray crosses the step, to which its lower end belongs and its upper one doesn't. */
+        private boolean isCrossed(int step) {
             int low = Math.min(pieces.from[step], pieces.to[step]);
             int high = Math.max(pieces.from[step], pieces.to[step]);
-            return joints.y[low] * pUnder <= py * joints.under[low]
-                && joints.y[high] * pUnder > py * joints.under[high]
-                && joints.side(low, high, px, py, pUnder) > 0;
+            return joints.heightOrder(low, ASKED) <= 0
+                && joints.heightOrder(ASKED, high) < 0
+                && joints.side(low, high, ASKED) > 0;
         }
     }
 

@@ -548,13 +548,15 @@ public final class PromiseTest {
         }
     }
 
+    /** All are clear and none needs to go back: each has the lowest colour that those ahead leave it. */
     private static void allDiffer(GlazierBench x) {
         due("colours(100000)", x.colours(100000), 1);
         for (int p = 0; p < x.count(6); p++) {
+            int taken = 0;
             for (int q = 0; q < p; q++) {
-                boolean differ = x.touch(p, q) == 0 || x.pane(p, 7) != x.pane(q, 7);
-                due("colours of " + p + " and " + q, differ ? 1 : 0, 1);
+                taken |= x.touch(p, q) > 0 ? 1 << x.pane(q, 7) : 0;
             }
+            due("pane(" + p + ", 7)", x.pane(p, 7), Integer.numberOfTrailingZeros(~taken));
         }
     }
 
@@ -626,6 +628,28 @@ public final class PromiseTest {
         bitsAre(x, 1 << 29, 0, 0);
         x.undo();
         bitsAre(x, 0, 0, 0);
+        bitsOfMany();
+    }
+
+    /** Every pane may have one colour alone; the last one and the nearest ahead of it that it touches the same. */
+    private static void bitsOfMany() {
+        GlazierBench x = thicket();
+        x.colours(100000);
+        int last = x.count(6) - 1;
+        int ahead = last - 1;
+        while (x.touch(last, ahead) == 0) {
+            ahead--;
+        }
+        int same = 1 << x.pane(ahead, 7);
+        for (int p = 0; p < last; p++) {
+            x.glass(p, 1, 1 << x.pane(p, 7));
+        }
+        x.glass(last, 2, same);
+        due("lack(20000)", x.lack(20000), 2);
+        for (int i = 0; i < 10; i++) {
+            int bits = (last / 30 == i ? 1 << last % 30 : 0) | (ahead / 30 == i ? 1 << ahead % 30 : 0);
+            due("bits(" + i + ")", x.bits(i), bits);
+        }
     }
 
     private static void bitsAre(GlazierBench x, int first, int second, int third) {

@@ -4,7 +4,7 @@ import java.util.Random;
 
 /** Runs of calls, the same ones on every machine, that GlazierBench and PlainBench must answer alike. */
 public final class RandomRunsTest {
-    private static final int RUNS = 250;
+    private static final int RUNS = 300;
     private static final int CALLS = 512;
 
     private final Random random;
@@ -42,6 +42,9 @@ public final class RandomRunsTest {
     }
 
     private void go() {
+        if (random.nextInt(5) == 0) {
+            drawThicket();
+        }
         for (int i = 0; i < CALLS && wrong == 0; i++) {
             call();
         }
@@ -302,6 +305,17 @@ public final class RandomRunsTest {
         due("alike(" + k + ")", bench.alike(k), plain.alike(k));
         newLead();
         due("alike(" + k + ")", bench.alike(k), plain.alike(k));
+    }
+
+    /** Many leads right through a large window: more panes and joints than a word has bits. */
+    private void drawThicket() {
+        List<int[]> leads = new ArrayList<>();
+        for (int i = 8 + random.nextInt(7); i > 0; i--) {
+            int a = random.nextInt(13);
+            int b = random.nextInt(13);
+            leads.add(random.nextBoolean() ? new int[] {0, a, 12, b} : new int[] {a, 0, b, 12});
+        }
+        draw(12, 12, leads);
     }
 
     private void draw(int w, int h, List<int[]> leads) {
