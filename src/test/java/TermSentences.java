@@ -480,6 +480,11 @@ final class TermSentences {
             """, Windows.CROSS + """
             glass(0, 1, 0): 1
             colours(0): 0
+            """, Windows.FULLEST + """
+            glass(67, 1, 2): 1
+            colours(283): -6
+            colours(284): 1
+            pane(54..79, 7): 0 0 1 0 1 0 0 0 1 0 2 2 0 1 2 0 1 2 0 0 1 0 1 0 0 1
             """);
         s.of("When a try more than told would be done it is SPENT.", Windows.CROSS + """
             colours(0): -6
