@@ -18,12 +18,13 @@ final class Refusal {
         this.finding = finding;
     }
 
+    boolean canBeReplayed() {
+        return before.size() <= MOST_BEFORE;
+    }
+
     /** What is not as it was, a line each. */
     List<String> changes() {
         List<String> changes = new ArrayList<>();
-        if (before.size() > MOST_BEFORE) {
-            return changes;
-        }
         listWhatCanBeAsked();
         int room = MOST_CALLS - before.size() - 1;
         for (int from = 0; from < asked.size(); from += room) {
