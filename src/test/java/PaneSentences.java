@@ -1,5 +1,15 @@
 /** Promises 6 to 12: joint, piece, corner, pane, area, touch, at. */
 final class PaneSentences {
+    /** A million times the area of pane 4 is 21901701 less 3 / 188464903. */
+    private static final String NEXT_TO_WHOLE = """
+        window(12, 12): 1
+        lead(9, 12, 5, 0): 0
+        lead(3, 12, 10, 0): 1
+        lead(0, 6, 12, 11): 2
+        lead(12, 8, 7, 12): 3
+        lead(9, 0, 12, 11): 4
+        """;
+
     private PaneSentences() {
     }
 
@@ -207,6 +217,10 @@ final class PaneSentences {
             count(5..6): 11 13
             pane(0, 0): 15
             area(0): 72000000
+            """, NEXT_TO_WHOLE + """
+            at(16, 16): 4
+            pane(4, 0): 5
+            area(4): 21901700
             """, Windows.FULLEST + """
             area(0..9): 23359728 2846153 5600000 1971428 2228571 1200000 8276541 1930434 3000000 1200000
             area(10..19): 571428 7761904 2217682 28571 512747 123285 4917401 141038 155091 503907
